@@ -582,7 +582,7 @@ public final class HeadCounts {
             current = 0;
             fault = 0;
             int place = 0;
-            while (place < length) {
+            for (int i = 0; i < TAPE_BYTES && place < length; i++) {
                 place = text[place] == ' ' ? place + 1 : cutPiece(place);
             }
             addPiece(END, 0, length);
@@ -1439,20 +1439,21 @@ public final class HeadCounts {
             }
         }
 
-        /** Rows are made for the greatest house so far alone, and used again. */
-        void makeRows() {
+        /** Rows are made anew only for more situations than there ever were, as what is made is never given back. */
+        void startQueue() {
             if (marks.length < size) {
                 marks = new long[size];
-                nextMarks = new long[size];
                 queue = new int[size];
-                nextQueue = new int[size];
             }
-        }
-
-        void startQueue() {
-            makeRows();
             queue[0] = start;
             marks[start] = 1;
+        }
+
+        void makeNextRows() {
+            if (nextMarks.length < size) {
+                nextMarks = new long[size];
+                nextQueue = new int[size];
+            }
         }
 
         void turnRows() {
@@ -1495,7 +1496,7 @@ public final class HeadCounts {
         }
 
         boolean canCross(int i, int room) {
-            return isLinked(at[i], room) && counts[room] + halves[i] <= most[room];
+            return (links[at[i]] >> room & 1) == 1 && counts[room] + halves[i] <= most[room];
         }
 
         /** The place of a living head among these; 0 for others. */
@@ -1574,7 +1575,8 @@ public final class HeadCounts {
 
         /** More that is told never lets more fit, so the first that can't be is found by halves. */
         int firstNotSo(World world) {
-            if (canBe(world, world.told)) {
+            sumUp(world);
+            if (situations > 0) {
                 return CANNOT;
             }
             int fitting = 0;
@@ -1648,6 +1650,7 @@ public final class HeadCounts {
 
         private int advance(int length) {
             int reached = 0;
+            scene.makeNextRows();
             for (int i = 0; i < length; i++) {
                 int situation = scene.queue[i];
                 long ways = scene.marks[situation];
@@ -1713,7 +1716,7 @@ public final class HeadCounts {
             int length = 1;
             int levelEnd = 1;
             int level = 1;
-            for (int i = 0; i < length && minutes == CANNOT; i++) {
+            for (int i = 0; i < scene.size && i < length && minutes == CANNOT; i++) {
                 if (i == levelEnd) {
                     level++;
                     levelEnd = length;
@@ -1826,7 +1829,7 @@ public final class HeadCounts {
             queued = 1;
             int level = 1;
             int levelEnd = 1;
-            for (int i = 0; i < queued && !isEnded; i++) {
+            for (int i = 0; i < MOST_SITUATIONS && i < queued && !isEnded; i++) {
                 if (i == levelEnd) {
                     level++;
                     levelEnd = queued;
