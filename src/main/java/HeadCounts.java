@@ -952,16 +952,17 @@ public final class HeadCounts {
         private void readValue() {
             int kind = in.kind();
             boolean isWord = kind >= 0 && kind < Reader.VALUE_WORDS;
-            if (in.fault != 0 || !isWord && !in.hasNumber(0, 99999)) {
-                return;
-            }
-            if (values >= VALUES) {
+            if (kind == Reader.LONG_NUMBER) {
+                in.refuse(WRONG_NUMBER);
+            } else if (!isWord && kind != Reader.NUMBER) {
+                in.refuse(WRONG_SIGN);
+            } else if (values >= VALUES) {
                 in.refuse(TOO_MANY_VALUES);
-                return;
+            } else {
+                values++;
+                put(isWord ? kind : Rule.NUMBER + in.number());
+                in.skip();
             }
-            values++;
-            put(isWord ? kind : Rule.NUMBER + in.number());
-            in.skip();
         }
     }
 
@@ -1418,7 +1419,7 @@ public final class HeadCounts {
                 start += at[i] * size;
                 size *= rooms;
             }
-            recount();
+            unfold(start);
         }
 
         private void weighRooms(House house) {
@@ -1429,13 +1430,6 @@ public final class HeadCounts {
                         weight[room] += 1L << SENSE_BITS * sense;
                     }
                 }
-            }
-        }
-
-        private void recount() {
-            Arrays.fill(counts, 0);
-            for (int i = 0; i < heads; i++) {
-                counts[at[i]] += halves[i];
             }
         }
 
@@ -1472,15 +1466,14 @@ public final class HeadCounts {
         }
 
         void unfold(int situation) {
-            if (rooms == 0) {
-                return;
-            }
+            Arrays.fill(counts, 0);
             int rest = situation;
-            for (int i = heads - 1; i >= 0; i--) {
-                at[i] = rest % rooms;
+            for (int i = heads - 1; i >= 0 && rooms > 0; i--) {
+                int room = rest % rooms;
                 rest /= rooms;
+                at[i] = room;
+                counts[room] += halves[i];
             }
-            recount();
         }
 
         long sensed() {
