@@ -43,6 +43,9 @@ public final class HouseTest {
         fault("rooms 2;door 0;", 14, 0);
         fault("rooms 2;few 0 1", 8, 0);
         fine("rooms2", 0);
+        fine("rooms 2" + " ".repeat(393), 0);
+        fault(";".repeat(400), 0, 0);
+        fault("rooms 2" + " ".repeat(392) + ";", 400, 0);
         fine("  rooms  2  ", 0);
         fine("rooms 2;head0 1;head 1  1 ; head1 4", 3);
     }

@@ -60,6 +60,10 @@ public final class RuleTest {
         fault("go 1 if At = 1", 8, 0);
         fine("go 1");
         fine("go1");
+        fine("go 1" + " ".repeat(396));
+        fine("go 1 if" + " ".repeat(390) + "1=1");
+        fault(";".repeat(400), 0, 0);
+        fault("go 1 if" + " ".repeat(391) + "1=", 400, 0);
         fine(" go 99999 ; go few if at<=1 and not at>=2 or[here>least]");
         fine("go head+halves-at*home/came+here+few+crowd+least+greatest+gone+minute");
         fine("go 1if at=1and at<2or at>3");
@@ -105,6 +109,8 @@ public final class RuleTest {
         CHECK.due("its tape stays", x.count(13), 4);
         Check.house(x, "rooms 2;door 0 1;head 0 1");
         CHECK.due("rules stay in a house", x.count(4), 6);
+        CHECK.due("rule 6 would", x.would(6, 0), -1);
+        CHECK.due("rule 6 runs", x.run(6, 1), -1);
         CHECK.due("rule 0 would", x.would(0, 0), -2);
         CHECK.due("rule 1 would", x.would(1, 0), 1);
     }
