@@ -82,6 +82,7 @@ final class BoundsOfGoings extends Bounds {
         s.hold("THEFT of a HEAD to a ROOM: MINUTES in each of which one or two go so (at once), without a change of any SENSE's COUNT: "
             + "the fewest behind which he is there.");
         theft("rooms 2;door 0 1;head 0 1", 0, 0, 0);
+        theft("rooms 2;door 0 1;head 0 1;head 0 1", 0, 0, 0);
         theft("rooms 2;door 0 1;head 0 1", 1, 1, 1);
         theft("rooms 2;door 0 1;head 0 1;sense 1", 1, -2, -2);
         theft("rooms 2;door 0 1;head 0 1;head 1 1;sense 1", 1, 1, 2);

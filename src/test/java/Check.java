@@ -1,5 +1,8 @@
 /** Counts the answers that are not as due, and tells them. */
 final class Check {
+    /** Whether a test ends by an exception at its first wrong answer: Mutants asks no more of it. */
+    private static final boolean STOPS = Boolean.getBoolean("check.stops");
+
     private final String name;
     private int asked;
     private int wrong;
@@ -11,6 +14,9 @@ final class Check {
     void due(String call, long got, long want) {
         asked++;
         if (got != want) {
+            if (STOPS) {
+                throw new IllegalStateException(call);
+            }
             wrong++;
             if (wrong <= 20) {
                 System.out.println(name + ": " + call + " answered " + got + ", due is " + want);
