@@ -464,14 +464,20 @@ public final class HeadCounts {
         return (int) (draw / 65536);
     }
 
+    /** A draw of 0 to one less than so many. */
+    private int nextDrawBelow(int many) {
+        int drawn = nextDraw();
+        return many > 0 ? drawn % many : 0;
+    }
+
     /** A minute of the trial by draws: how many went. */
     private int passByDraw() {
         int heads = trial.house.heads;
-        int head = nextDraw() % (heads + 1);
+        int head = nextDrawBelow(heads + 1);
         if (head < heads && trial.isAlive(head)) {
             int ways = Integer.bitCount(trial.roomsFor(head));
             if (ways > 0) {
-                trial.pass(head, trial.roomAmong(head, nextDraw() % ways), false);
+                trial.pass(head, trial.roomAmong(head, nextDrawBelow(ways)), false);
                 return 1;
             }
         }
@@ -1160,7 +1166,7 @@ public final class HeadCounts {
         void pass(int head, int room, boolean isBackwards) {
             minute++;
             dropEchoes();
-            if (head >= 0 && head < house.heads) {
+            if (head >= 0 && head < house.heads && room >= 0 && room < house.rooms) {
                 if (isBackwards) {
                     leaveEcho(head);
                 }
@@ -1439,8 +1445,26 @@ public final class HeadCounts {
                 marks = new long[size];
                 queue = new int[size];
             }
-            queue[0] = start;
-            marks[start] = 1;
+            put(start, 1, 0);
+        }
+
+        /** Queues a situation behind so many, with its mark: how many are queued then. */
+        int put(int situation, long mark, int length) {
+            if (!isPlace(situation) || length < 0 || length >= queue.length) {
+                return length;
+            }
+            marks[situation] = mark;
+            queue[length] = situation;
+            return length + 1;
+        }
+
+        /** Whether a situation has a place in the rows. */
+        private boolean isPlace(int situation) {
+            return situation >= 0 && situation < marks.length;
+        }
+
+        boolean isMarked(int situation) {
+            return isPlace(situation) && marks[situation] != 0;
         }
 
         void makeNextRows() {
@@ -1460,9 +1484,15 @@ public final class HeadCounts {
         }
 
         void clearMarks(int length) {
-            for (int i = 0; i < length; i++) {
+            for (int i = 0; i < length && i < queue.length; i++) {
                 marks[queue[i]] = 0;
             }
+        }
+
+        /** The room of a living head, by its place among these, in a situation other than the one that is looked at. */
+        int roomIn(int situation, int i) {
+            int step = power[i];
+            return step > 0 && rooms > 0 ? situation / step % rooms : NONE;
         }
 
         void unfold(int situation) {
@@ -1669,12 +1699,16 @@ public final class HeadCounts {
         }
 
         private int addWays(int situation, long ways, int length) {
+            if (situation < 0 || situation >= scene.nextMarks.length) {
+                return length;
+            }
             boolean isNew = scene.nextMarks[situation] == 0;
             scene.nextMarks[situation] += ways;
-            if (isNew) {
-                scene.nextQueue[length] = situation;
+            if (!isNew || length < 0 || length >= scene.nextQueue.length) {
+                return length;
             }
-            return isNew ? length + 1 : length;
+            scene.nextQueue[length] = situation;
+            return length + 1;
         }
 
         /** Finds minutes, firstHead and firstRoom: CANNOT for what is not. */
@@ -1725,15 +1759,13 @@ public final class HeadCounts {
             for (int i = 0; i < scene.heads; i++) {
                 for (int room = 0; room < scene.rooms; room++) {
                     int there = situation + (room - scene.at[i]) * scene.power[i];
-                    if (scene.canCross(i, room) && scene.marks[there] == 0) {
+                    if (scene.canCross(i, room) && !scene.isMarked(there)) {
                         long mark = level == 1 ? 2 + i * MOST_ROOMS + room : scene.marks[situation];
                         if (isSought(i, room)) {
                             arrive(level, mark);
                             return reached;
                         }
-                        scene.marks[there] = mark;
-                        scene.queue[reached] = there;
-                        reached++;
+                        reached = scene.put(there, mark, reached);
                     }
                 }
             }
@@ -1884,19 +1916,17 @@ public final class HeadCounts {
         }
 
         private void comeTo(int situation, int gone) {
-            if (scene.marks[situation] != 0 || scene.rooms == 0) {
+            if (scene.isMarked(situation)) {
                 return;
             }
-            if (situation / scene.power[mover] % scene.rooms == aim) {
+            if (scene.roomIn(situation, mover) == aim) {
                 goers = goersBefore + gone;
                 isEnded = true;
             } else if (queued >= MOST_SITUATIONS) {
                 goers = UNKNOWN;
                 isEnded = true;
             } else {
-                scene.marks[situation] = 1 + goersBefore + gone;
-                scene.queue[queued] = situation;
-                queued++;
+                queued = scene.put(situation, 1 + goersBefore + gone, queued);
             }
         }
     }

@@ -25,6 +25,7 @@ public final class LanguageTest {
         String text = Files.readString(file, StandardCharsets.ISO_8859_1);
         words(text);
         lengths(text);
+        divisors(bare(text));
         face();
         inside();
         CHECK.close();
@@ -72,6 +73,22 @@ public final class LanguageTest {
                 start = -1;
             }
         }
+    }
+
+    /** What divides is a constant, or stands against 0 in its method. */
+    private static void divisors(String code) {
+        Pattern divisor = Pattern.compile("[^/][/%]=?\\s*(\\w+(?:\\.\\w+|\\[\\w+\\])*|\\()");
+        int found = 0;
+        for (String method : code.split("\n {4,8}\\}\n")) {
+            Matcher divisors = divisor.matcher(method);
+            while (divisors.find()) {
+                String name = divisors.group(1);
+                boolean isTested = method.contains(name + " > 0") || method.contains(name + " == 0");
+                CHECK.due("'" + divisors.group() + "' divides behind a test", name.matches("[0-9]+|[A-Z_]+") || isTested, true);
+                found++;
+            }
+        }
+        CHECK.due("divisors are found", found > 10, true);
     }
 
     private static void face() {
